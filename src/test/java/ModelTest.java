@@ -114,6 +114,9 @@ public final class ModelTest {
 
     /** Mostly a number that is there, now and then one that is not. */
     private int draw(int count) {
+        if (random.nextInt(100) == 0) {
+            return random.nextBoolean() ? Integer.MIN_VALUE : Integer.MAX_VALUE;
+        }
         return random.nextInt(12) == 0 || count <= 0 ? random.nextInt(24) - 4 : random.nextInt(count);
     }
 

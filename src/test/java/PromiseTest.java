@@ -18,6 +18,7 @@ public final class PromiseTest {
         faultsOfSolvers();
         laying();
         layingAnew();
+        layingOthersAhead();
         squares();
         places();
         words();
@@ -30,6 +31,7 @@ public final class PromiseTest {
         wanting();
         undoing();
         undoingAtMostEight();
+        undoingLettersOfEight();
         behind();
         fillings();
         must();
@@ -276,6 +278,22 @@ public final class PromiseTest {
         due("5: back() behind", x.back(), NO);
     }
 
+    private static void layingOthersAhead() {
+        EveningCrossword x = new EveningCrossword();
+        String[] texts = {"g4,4;b0;b15;wabcd;wab;l1a;l14f;s4,7,1;s3,6,0;", "g4,4;b0;wabc;wcd;l2b;s1,3,0;", "wef;"};
+        for (String text : texts) {
+            x.wipe();
+            Check.writeAll(x, text);
+            due("5: lay() of " + text, x.lay(), text.length() > 4 ? 8 : 7);
+        }
+        due("5: count(5): letters told ahead are gone", x.count(5), 0);
+        due("5: count(3): words told ahead are gone", x.count(3), 1);
+        due("5: count(4): solvers told ahead are gone", x.count(4), 0);
+        due("5: square(0): black ones told ahead are gone", x.square(0), 0);
+        due("5: place(0, 4)", x.place(0, 4), 0);
+        due("5: dead()", x.dead(), 127);
+    }
+
     private static void squares() {
         EveningCrossword x = laid("g2,3;b1;wab;l0a;l2f;l1b;");
         due("6: square(0)", x.square(0), 1);
@@ -499,6 +517,21 @@ public final class PromiseTest {
         due("14: solver(0, 2) behind NO", x.solver(0, 2), 1);
     }
 
+    private static void undoingLettersOfEight() {
+        EveningCrossword x = laid("g2,2;wab;wac;");
+        x.set(0, 0);
+        for (int i = 0; i < 5; i++) {
+            x.strike(0);
+            x.set(0, i % 2);
+        }
+        due("14: count(7) of eleven", x.count(7), 8);
+        int[] second = {0, 3, 0, 2, 0, 3, 0, 2};
+        for (int left = 7; left >= 0; left--) {
+            due("14: undo()", x.undo(), left);
+            due("14: square(1)", x.square(1), second[7 - left]);
+        }
+    }
+
     private static void behind() {
         EveningCrossword x = laid("g2,3;b5;wab;wcd;wabc;s3,0,2;s3,1,1;");
         int[][] want = {{0, 0, 0, 0, 0, NONE}, {1, 2, 3, 0, 0, NONE}, {1, 2, 3, 3, 4, NONE}};
@@ -557,6 +590,10 @@ public final class PromiseTest {
         due("17: must(-1)", x.must(-1), BAD);
         x.strike(0);
         mustBe(x, NONE, NONE, NONE, NONE);
+        x.set(0, 0);
+        mustBe(x, 1, 2, 2, 1);
+        x.set(1, 0);
+        mustBe(x, NONE, NONE, NONE, NONE);
         mustBe(laid(RING + "l0a;l2b;"), NONE, NONE, NONE, NONE, NONE, NONE, NONE, NONE, NONE);
         mustBe(laid("g2,2;waa;wab;l0a;"), 1, 1, 1, NONE);
         // 0 # 2 / # 4 5: square 0 is in no place
@@ -580,6 +617,7 @@ public final class PromiseTest {
         x.evening();
         due("19: two", x.dead(), 12);
         due("19: too long", laid("g2,3;wabc;").dead(), 28);
+        due("19: the first", laid("g2,3;b4;b5;wabc;wde;l1d;").dead(), 1);
         due("19: a full place is not", laid("g2,2;wab;l0c;l1c;").dead(), 12);
         due("19: no place", laid("g2,2;b0;b3;wab;").dead(), 0);
     }
@@ -622,6 +660,10 @@ public final class PromiseTest {
         x.set(0, 0);
         due("21: win(0, 0) in a full place", x.win(0, 0), NONE);
         due("21: two of four", laid("g2,2;wcd;wab;s1,0,0;s1,0,0;s0,1,1;s0,1,1;").win(0, 1), 3);
+        // Six count 5 each for aaaa, but 1 each for bcbc; of like counts the lowest word comes first.
+        String vowels = "s2,0,WORD;".repeat(6);
+        due("21: all six", laid("g2,4;waaaa;wbcbc;" + vowels.replace("WORD", "0")).win(0, 1), 63);
+        due("21: five of six", laid("g2,4;wbcbc;waaaa;" + vowels.replace("WORD", "1")).win(0, 0), 31);
         due("21: a lady rather than two", laid("g2,2;wcd;wab;s0,0,0;s0,0,0;s3,3,1;").win(0, 1), 4);
         due("21: a lady at the second place", laid(SMALL + "s3,0,0;").win(1, 0), NONE);
         due("21: too long", laid("g2,3;wabc;s0,0,0;").win(2, 0), NONE);
@@ -774,6 +816,7 @@ public final class PromiseTest {
         due("27: count(5): nothing changes", x.count(5), 0);
         due("27: solver(0, 2): nothing changes", x.solver(0, 2), 0);
         due("27: count(7): nothing changes", x.count(7), 0);
+        weeksAre(laid("g2,2;wab;s0,0,0;"), 0, 4, 4, 3);
         weeksAre(laid("g2,2;wab;l0a;l1b;"), 0, 40, 1, 0);
         weeksAre(laid("g2,2;b0;b3;wab;s0,0,0;"), 0, 40, 0, 0);
     }
