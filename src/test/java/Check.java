@@ -15,6 +15,13 @@ final class Check {
         }
     }
 
+    static void same(String what, String got, String want) {
+        if (!got.equals(want)) {
+            wrong++;
+            System.out.println(what + " is\n" + got + "\nand not\n" + want);
+        }
+    }
+
     static void finish() {
         if (wrong != 0) {
             System.out.println(wrong + " answers are not as due");
