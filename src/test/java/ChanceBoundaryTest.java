@@ -122,6 +122,9 @@ public final class ChanceBoundaryTest {
         String sentence = "which is STRUCK OUT, if (DRAW by 1024, cut) modulo 4 is 0";
         Script.of(sentence + " (0)", SMALL + "l0f;s0,7,1;").calls(weeks(0, 1, 1, 1));
         Script.of(sentence + " (2)", SMALL + "l2f;s0,7,1;").calls(weeks(9999, 1, 0, 0));
+        // Draws of k 0 at the edges of by 1024: 8192 (8), 19456 (19), 5119 (4), 3071 (2), 32767 (31).
+        Script.of(sentence + " (8, 19: nothing is cut off)", SMALL + "l0f;s0,7,1;").calls(weeks(6953, 1, 1, 1)).calls(weeks(237, 1, 0, 0));
+        Script.of(sentence + " (4, 2, 31: the most is cut off)", SMALL + "l1f;s0,7,0;").calls(weeks(5469, 1, 1, 1)).calls(weeks(7128, 1, 0, 0)).calls(weeks(2912, 1, 0, 0));
         // The draws of z 8058 are 29184 (by 64: 456, by 1024: 28) and 0: place 0 is struck out both times.
         Script.of(sentence + " (a DRAW of 0)", "g2,2;wab;l0f;l1f;l2f;l3f;s0,7,0;").calls(weeks(8058, 1, 4, 1)).calls(weeks(8058, 2, 4, 2));
     }

@@ -86,6 +86,8 @@ public final class ComingBoundaryTest {
         Script.of(sentence + " (PLACES that do not touch)", "g2,3;b1;b4;waa;wab;wbb;").calls("fillings(-1) = 9");
         // Eight squares, six places of two, all words of three letters: 3 to the eighth.
         Script.of(sentence + " (many)", "g3,4;b2;b5;b8;b11;waa;wab;wac;wba;wbb;wbc;wca;wcb;wcc;").calls("fillings(-1) = 6561; fillings(5) = 0; must(0) = NONE; best() = 24");
+        // The most squares that can be in places of two alone are ten: 3 to the tenth, eight places.
+        Script.of(sentence + " (most)", "g4,4;b1;b4;b7;b10;b13;waa;wab;wac;wba;wbb;wbc;wca;wcb;wcc;").calls("count(2) = 8; fillings(-1) = 59049; fillings(7) = 0; best() = 30");
     }
 
     private static void firstFilling() {

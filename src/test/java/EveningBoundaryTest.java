@@ -68,6 +68,7 @@ public final class EveningBoundaryTest {
         Script.of(sentence + " (the last alone is not FULL)", "g2,3;b0;b2;b3;wab;wba;s3,0,0;s3,1,1;")
                 .calls("count(2) = 2; solver(0, 3) = 3; solver(1, 3) = 0; set(0, 0); solver(0, 3) = 0; solver(1, 3) = 3");
         Script.of(sentence + " (all FULL)", "g2,2;wab;l0a;l1a;l2a;l3a;s3,0,0;s3,3,0;").calls("solver(0, 3) = 0; solver(1, 3) = 0; evening() = 0");
+        Script.of(sentence + " (all eight FULL)", "g4,4;waaaa;s3,0,0;s3,7,0;").calls("set(4, 0); set(5, 0); set(6, 0); solver(1, 3) = 0; solver(0, 3) = 3; set(7, 0); solver(0, 3) = 0; solver(1, 3) = 0; evening() = 0");
         Script.of(sentence + " (DEAD, yet not FULL)", SMALL + "l0f;s3,1,0;").calls("dead() = 5; solver(0, 3) = 0; evening() = 0");
         Script.of(sentence + " (FULL only by then)", SMALL + "s0,0,0;s3,1,1;").calls("evening() = 1; square(2) = 0; evening() = 1; square(2) = 3; evening() = 0");
     }

@@ -35,6 +35,7 @@ public final class TextBoundaryTest {
         noFault();
         placesLaid();
         nothingLeftBehindLaying();
+        nothingOfSheetsAhead();
         refusedLaying();
         Check.finish();
     }
@@ -296,6 +297,14 @@ public final class TextBoundaryTest {
         Script.of("5 lay: nothing UNDONE", text).calls(ahead).calls("count(7) = 0; undo() = NO");
         Script.of("5 lay: nothing KEPT", text).calls(ahead).calls("count(8) = 0; back() = NO; keep() = 1; keep() = 2; keep() = FULL");
         Script.of("5 lay: letters and wants as told", text).calls(ahead).calls("square(0) = 1; square(1) = 0; solver(0, 1) = 0; count(5) = 1");
+    }
+
+    private static void nothingOfSheetsAhead() {
+        Script script = Script.of("5 lay: LAID (nothing of the sheets laid ahead is left)", "g4,4;b0;b15;wabcd;wab;l1a;l14f;s4,7,1;s3,6,0;").calls("wipe()");
+        script.text("g4,4;b0;wabc;wcd;l2b;s1,3,0;").calls("lay() = 8; wipe()").text("wef;").calls("lay() = 7; count(3) = 1; count(4) = 0; count(5) = 0; square(0) = 0; square(1) = 0; square(2) = 0")
+                .calls("place(0, 4) = 0; dead() = 127; fillings(-1) = 0; wipe()").text("g2,2;wfe;").calls("lay() = 4; place(0, 4) = 1; dead() = 0; count(5) = 0; square(0) = 0; square(1) = 0");
+        Script.of("5 lay: LAID (nor the letters of WORDS laid ahead)", "g2,2;wab;").calls("lay() = 4; wipe()").text("g2,2;wcd;l0a;")
+                .calls("lay() = 4; place(0, 4) = 0; lay() = 4; place(0, 4) = 0; fault() = NONE; lay() = 4; place(0, 4) = 0; set(0, 0) = NO");
     }
 
     private static void refusedLaying() {
